@@ -217,7 +217,7 @@ public final class LendTown {
         }
         int bits = 0;
         for (int d = 0; d < now.town.deals; d++) {
-            if (now.town.wayBy(d, parts) != NOT_DONE) {
+            if (now.town.goesBy(d, parts)) {
                 bits |= 1 << d;
             }
         }
@@ -1039,23 +1039,16 @@ public final class LendTown {
             return lenderGain[d] + borrowerGain[d];
         }
 
-        /** How the DEAL GOES by PARTS: as told, TURNED, or not. */
-        int wayBy(int d, int parts) {
-            int lenderLends = (parts >> lender[d]) & 1;
-            int borrowerLends = (parts >> borrower[d]) & 1;
-            if (lenderLends == borrowerLends) {
-                return NOT_DONE;
-            }
-            if (lenderLends == 1) {
-                return AS_TOLD;
-            }
-            return either[d] == 1 ? TURNED : NOT_DONE;
+        boolean goesBy(int d, int parts) {
+            boolean lenderLends = (parts >> lender[d] & 1) == 1;
+            boolean borrowerLends = (parts >> borrower[d] & 1) == 1;
+            return lenderLends != borrowerLends && (lenderLends || either[d] == 1);
         }
 
         int ownOf(int p, int parts) {
             int sum = 0;
             for (int d = 0; d < deals; d++) {
-                if (isIn(d, p) && wayBy(d, parts) != NOT_DONE) {
+                if (isIn(d, p) && goesBy(d, parts)) {
                     sum += shareOf(d, p);
                 }
             }
@@ -1270,7 +1263,7 @@ public final class LendTown {
         private void gather(Town t, int parts, int from, int to) {
             goingCount = 0;
             for (int i = from; i < to; i++) {
-                if (t.wayBy(t.byYear[i], parts) != NOT_DONE) {
+                if (t.goesBy(t.byYear[i], parts)) {
                     going[goingCount] = t.byYear[i];
                     goingCount++;
                 }
@@ -1436,7 +1429,7 @@ public final class LendTown {
         private static void addUp(Town t, int p, int parts, int[] sums) {
             Arrays.fill(sums, 0);
             for (int d = 0; d < t.deals; d++) {
-                if (t.wayBy(d, parts) != NOT_DONE) {
+                if (t.goesBy(d, parts)) {
                     sums[t.year[d] + 1] += t.shareOf(d, p);
                 }
             }

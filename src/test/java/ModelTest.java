@@ -8,6 +8,9 @@ public final class ModelTest {
     private static final String[] ODD = {"person", "limit", "deal", "either", "law", "life", "years", "part", "lends",
         "borrows", "turned", ";", ".", "100", "60", "0", "5", "x", "abcdefgh", "a5", "5a", "A", "\t", "d0", "a", "-", "\u00e9"};
 
+    /** So many that what is fed and asked besides stays within the calls that an object is promised for. */
+    private static final int MOST_CALLS = 330;
+
     private final Random random;
     private final LendTown real = new LendTown();
     private final PlainTown plain = new PlainTown();
@@ -44,10 +47,10 @@ public final class ModelTest {
     }
 
     private void go() {
-        int rounds = 2 + below(4);
-        for (int i = 0; i < rounds; i++) {
+        int towns = 1 + below(5);
+        for (int i = 1; i <= towns; i++) {
             town(townText(chance(70) ? 4 : 10, chance(50) ? 6 : chance(70) ? 12 : 30));
-            for (int k = 0; k < 45 && calls < 400; k++) {
+            while (calls < MOST_CALLS * i / towns) {
                 anyCall();
             }
         }
@@ -64,6 +67,11 @@ public final class ModelTest {
             same("person born", plain.people.get(p).born, real.person(p, 0));
             same("person limit", plain.people.get(p).limit, real.person(p, 2));
         }
+        same("count(0)", plain.people.size(), real.count(0));
+        same("count(1)", plain.deals.size(), real.count(1));
+        same("count(2)", plain.law, real.count(2));
+        same("count(3)", plain.done.size(), real.count(3));
+        same("told()", plain.told(), real.told());
     }
 
     private String townText(int persons, int deals) {
@@ -289,7 +297,7 @@ public final class ModelTest {
         int n = chance(90) ? below(61) : below(2) * 62 - 1;
         same("one(" + p + ", " + parts + ")", plain.one(p, parts), real.one(p, parts));
         same("oneBy(" + p + ", " + parts + ", " + n + ")", plain.oneBy(p, parts, n), real.oneBy(p, parts, n));
-        for (int year = -1; year <= 60; year++) {
+        for (int year = below(9) - 1; year <= 60; year += 1 + below(9)) {
             same("oneIs(" + year + ") behind one(" + p + ", " + parts + ")", plain.oneIs(year), real.oneIs(year));
         }
     }

@@ -149,6 +149,10 @@ public final class PromiseTest {
             faultAt(AB + "deal d a ^" + word + " 1 1 1;", 1);
         }
         town("person lend 0 59;person year 0 59;person turn 0 59;", 3, 0);
+        town("person laws 0 59;person parts 0 59;person persons 0 59;", 3, 0);
+        faultAt("^laws life;", 1);
+        faultAt("^persons a 0 59;", 1);
+        faultAt("^la life;", 1);
         faultAt(AB + "limit a ^b;", 1);
         faultAt(AB + "limit a 1 ^", 1);
         faultAt(AB + "part a ^life;", 1);
@@ -264,6 +268,7 @@ public final class PromiseTest {
     private static void townReplaces() {
         LendTown x = Due.townOf(AB + "law years 3;part b lends;limit b 2;deal d a b 1 1 1;");
         x.does(0, 0);
+        Due.is("at rest", 2, x.rests(-1));
         Due.is("bad town", -5, Due.town(x, "law death;"));
         Due.is("law stays", 3, x.count(2));
         Due.is("done stays", 1, x.count(3));
@@ -277,7 +282,12 @@ public final class PromiseTest {
         Due.is("told", 0, x.told());
         Due.is("limit", 9, x.person(0, 2));
         Due.is("same again", 3, Due.town(x, AB + "deal z a b 1 1 1;"));
-        Due.is("told once more", 2, Due.town(x, AB));
+        Due.is("third town", 2, Due.town(x, AB));
+        Due.is("law of the first one is gone", 0, x.count(2));
+        Due.is("rests of the first one are gone", 4, x.rests(-1));
+        Due.is("parts of the first one are gone", 0, x.told());
+        Due.is("limits of the first one are gone", 9, x.person(1, 2));
+        Due.is("deals of the first one are gone", 0, x.count(1));
     }
 
     private static void personAndDeal() {
@@ -551,6 +561,8 @@ public final class PromiseTest {
         Due.is("gain", 7, x.gain(1));
         Due.is("price of a", 4, x.price(0, 1));
         Due.is("price of b", 0, x.price(1, 1));
+        LendTown step = Due.townOf(AB + "limit a 1;deal d a b 5 1 1;deal e a b 5 3 3;deal f a b 5 2 2;");
+        Due.is("one more alone", 4, step.price(0, 1));
         Due.is("loss of a", 7, x.loss(0, 1));
         Due.is("loss of b", 7, x.loss(1, 1));
         Due.is("nothing goes", 0, x.loss(1, 2));
@@ -624,7 +636,11 @@ public final class PromiseTest {
         Due.is("rounds(5)", 2, chase.rounds(5));
         Due.is("ring of two", 2, chase.ended(1));
         Due.is("parts", 5, chase.ended(0));
-        Due.is("nothing to gain", 1, Due.townOf(AB).rounds(3));
+        Due.town(chase, AB);
+        Due.is("ended tells of the latest rounds", 2, chase.ended(1));
+        Due.is("nothing to gain", 1, chase.rounds(3));
+        Due.is("parts", 3, chase.ended(0));
+        Due.is("at rest", 0, chase.ended(1));
     }
 
     private static void oneYears() {
@@ -720,6 +736,8 @@ public final class PromiseTest {
         Due.is("the least set", 5, two.fewest());
         Due.is("no deals", 0, Due.townOf(persons(4)).fewest());
         Due.is("nobody", 0, new LendTown().fewest());
+        LendTown often = Due.townOf(persons(2) + "deal da a b 1 0 0;deal db a b 1 0 0;deal dc a b 2 0 0;deal dd a b 2 0 0;");
+        Due.is("two deals with one", 1, often.fewest());
     }
 
     private static int meet(LendTown x, int... pairs) {
@@ -761,7 +779,9 @@ public final class PromiseTest {
         Due.is("a ring of five", 0, meet(x, 0, 1, 1, 2, 2, 3, 3, 4, 4, 0));
         Due.is("four groups", 16, meet(x, 0, 1, 2, 3, 4, 5, 6, 7));
         Due.is("no person", -1, meet(x, 0, 8));
+        Due.is("no person", -1, meet(x, 8, 0));
         Due.is("no person", -1, meet(x, 255, 0));
+        Due.is("no person", -1, meet(x, 0, 255));
         Due.is("himself", -1, meet(x, 0, 1, 2, 2));
         Due.is("odd", -1, meet(x, 0, 1, 2));
         Due.is("20 pairs", 2, meet(x, repeated(20)));
@@ -820,6 +840,13 @@ public final class PromiseTest {
         LendTown z = Due.townOf(ABC + "deal da a b 5 1 1;deal db b c 5 1 1;deal dc c a 4 1 1;");
         z.does(2, 0);
         Due.is("a may not lend, c not borrow", 0, z.between(5));
+        LendTown edges = Due.townOf("person a 5 9;person b 0 59;person c 0 59;"
+            + "deal da b a 5 1 1;deal db a c 5 1 1;deal dc b a 9 1 1;deal dd a c 9 1 1;deal de b a 6 1 1;deal df b a 6 1 1;"
+            + "deal dg a c 6 1 1;deal dh c a 7 1 1 either;deal di a c 7 1 1 either;");
+        Due.is("the year he is born in", 1, edges.between(5));
+        Due.is("the year he dies in", 1, edges.between(9));
+        Due.is("two deals with one lender", 1, edges.between(6));
+        Due.is("with one person alone", 0, edges.between(7));
         LendTown done = Due.townOf(ABC + "law years 1;deal da a b 5 1 1;deal db b c 5 1 1;deal dc a b 4 1 1;");
         done.does(0, 0);
         Due.is("a done deal is none, and b is a borrower", 0, done.between(5));
@@ -864,8 +891,10 @@ public final class PromiseTest {
     }
 
     private static void images() {
-        LendTown x = Due.townOf(AB + "law years 5;deal d a b 5 3 4;deal e b a 20 1 1;");
+        LendTown x = Due.townOf(AB + "law years 5;part b lends;deal d a b 5 3 4;deal e b a 20 1 1;");
         x.does(0, 0);
+        Due.is("lawful", 9, x.lawful());
+        Due.is("rests", 2, x.rests(-1));
         Due.is("best", 7, x.best());
         Due.yes("image(0)", x.image(0));
         Due.no("image(2)", x.image(2));
@@ -877,9 +906,11 @@ public final class PromiseTest {
         Due.is("image is apart", 2, x.count(3));
         Due.yes("image(1)", x.image(1));
         Due.is("other town", -5, Due.town(x, "law x;"));
-        Due.is("other town", 1, Due.town(x, "person z 4 5;"));
+        Due.is("other town", 2, Due.town(x, "person z 4 5;person y 4 5;"));
         Due.is("climb", 0, x.climb(0));
         Due.is("best", 0, x.best());
+        Due.is("lawful", 0, x.lawful());
+        Due.is("rests", 4, x.rests(-1));
         Due.feed(x, "abc");
         Due.yes("restore(0)", x.restore(0));
         Due.is("tape stays", 3, x.count(4));
@@ -896,6 +927,9 @@ public final class PromiseTest {
         Due.is("done", 1, x.count(3));
         Due.yes("restore(1)", x.restore(1));
         Due.is("done", 2, x.count(3));
+        Due.is("told", 2, x.told());
+        Due.is("rests", 2, x.rests(-1));
+        Due.is("lawful", 9, x.lawful());
         x.end(0);
         Due.is("book, names are kept", -1, Due.book(x, "d;e;"));
         Due.is("faulty town leaves all", -1, Due.town(x, "x"));
