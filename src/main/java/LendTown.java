@@ -583,11 +583,9 @@ public final class LendTown {
                 return;
             }
             place = position;
-            byte sign = bytes[position];
-            if (isLetter(sign) || isDigit(sign)) {
-                readWordOrNumber();
-            } else {
-                token = sign == ';' ? SEMICOLON : NO_TOKEN;
+            readWordOrNumber();
+            if (position == place) {
+                token = bytes[position] == ';' ? SEMICOLON : NO_TOKEN;
                 position++;
             }
         }
@@ -597,16 +595,17 @@ public final class LendTown {
             int digits = 0;
             number = 0;
             name = 0;
-            while (position < size && (isLetter(bytes[position]) || isDigit(bytes[position]))) {
+            for (; position < size; position++) {
                 byte sign = bytes[position];
-                if (isLetter(sign)) {
+                if (sign >= 'a' && sign <= 'z') {
                     letters++;
                     name = name * 32 + (sign - 'a' + 1);
-                } else {
+                } else if (sign >= '0' && sign <= '9') {
                     digits++;
                     number = number * 10 + (sign - '0');
+                } else {
+                    break;
                 }
-                position++;
             }
             boolean word = digits == 0 && letters <= 7;
             boolean figures = letters == 0 && digits <= 2;
@@ -633,14 +632,6 @@ public final class LendTown {
                 return false;
             }
             return token == WORD && !isWord("lends") && !isWord("borrows") && !isWord("turned");
-        }
-
-        private static boolean isLetter(byte sign) {
-            return sign >= 'a' && sign <= 'z';
-        }
-
-        private static boolean isDigit(byte sign) {
-            return sign >= '0' && sign <= '9';
         }
     }
 
@@ -728,7 +719,7 @@ public final class LendTown {
                 return readLimit(t);
             }
             if (tape.isWord("deal")) {
-                return readDeal(t);
+                return readDeal(t) && readGains(t, t.deals);
             }
             if (tape.isWord("law")) {
                 return readLaw(t);
@@ -801,7 +792,7 @@ public final class LendTown {
             t.lender[t.deals] = lender;
             t.borrower[t.deals] = borrower;
             t.year[t.deals] = tape.number;
-            return readGains(t, t.deals);
+            return true;
         }
 
         private boolean readGains(Town t, int d) {
@@ -1228,11 +1219,14 @@ public final class LendTown {
     private static final class Flow {
         private static final int UNREACHED = -1000000;
 
-        private final int[] going = new int[MOST_DEALS];
+        private final int[] lends = new int[MOST_DEALS];
+        private final int[] borrows = new int[MOST_DEALS];
+        private final int[] worth = new int[MOST_DEALS];
+        private final int[] wanted = new int[MOST_PERSONS];
         private final int[] room = new int[MOST_PERSONS];
         private final int[] reach = new int[MOST_PERSONS];
         private final int[] via = new int[MOST_PERSONS];
-        private int goingCount = 0;
+        private int going = 0;
         private int chosen = 0;
 
         int gainOf(Town t, int parts) {
@@ -1253,7 +1247,7 @@ public final class LendTown {
                         room[changed] = limit;
                     }
                     gather(t, parts, from, i);
-                    sum += gainOfYear(t, parts);
+                    sum += gainOfYear(t.persons, parts);
                     from = i;
                 }
             }
@@ -1261,57 +1255,60 @@ public final class LendTown {
         }
 
         private void gather(Town t, int parts, int from, int to) {
-            goingCount = 0;
+            going = 0;
+            Arrays.fill(wanted, 0);
             for (int i = from; i < to; i++) {
-                if (t.goesBy(t.byYear[i], parts)) {
-                    going[goingCount] = t.byYear[i];
-                    goingCount++;
+                int d = t.byYear[i];
+                if (t.goesBy(d, parts)) {
+                    boolean asTold = (parts >> t.lender[d] & 1) == 1;
+                    lends[going] = asTold ? t.lender[d] : t.borrower[d];
+                    borrows[going] = asTold ? t.borrower[d] : t.lender[d];
+                    worth[going] = t.bothShares(d);
+                    wanted[t.lender[d]]++;
+                    wanted[t.borrower[d]]++;
+                    going++;
                 }
             }
         }
 
-        private int gainOfYear(Town t, int parts) {
-            if (allFit(t)) {
-                return sumOfGoing(t);
+        private int gainOfYear(int persons, int parts) {
+            if (allFit(persons)) {
+                return sumOfGoing();
             }
             chosen = 0;
             int sum = 0;
-            for (int path = 0; path < goingCount; path++) {
-                spread(t, parts);
-                int last = bestEnd(t, parts);
+            for (int path = 0; path < going; path++) {
+                spread(persons, parts);
+                int last = bestEnd(persons, parts);
                 if (last == NONE) {
                     return sum;
                 }
                 sum += reach[last];
-                turnPath(t, last);
+                turnPath(last);
             }
             return sum;
         }
 
-        private boolean allFit(Town t) {
-            for (int p = 0; p < t.persons; p++) {
-                int wanted = 0;
-                for (int i = 0; i < goingCount; i++) {
-                    wanted += t.isIn(going[i], p) ? 1 : 0;
-                }
-                if (wanted > room[p]) {
+        private boolean allFit(int persons) {
+            for (int p = 0; p < persons; p++) {
+                if (wanted[p] > room[p]) {
                     return false;
                 }
             }
             return true;
         }
 
-        private int sumOfGoing(Town t) {
+        private int sumOfGoing() {
             int sum = 0;
-            for (int i = 0; i < goingCount; i++) {
-                sum += t.bothShares(going[i]);
+            for (int i = 0; i < going; i++) {
+                sum += worth[i];
             }
             return sum;
         }
 
         /** The most that a path from a lender with room to each PERSON adds: DEALS not chosen lead on, chosen ones back. */
-        private void spread(Town t, int parts) {
-            for (int p = 0; p < t.persons; p++) {
+        private void spread(int persons, int parts) {
+            for (int p = 0; p < persons; p++) {
                 boolean start = (parts >> p & 1) == 1 && room[p] > 0;
                 reach[p] = start ? 0 : UNREACHED;
                 via[p] = NONE;
@@ -1319,20 +1316,17 @@ public final class LendTown {
             boolean grew = true;
             for (int pass = 0; pass <= MOST_PERSONS && grew; pass++) {
                 grew = false;
-                for (int i = 0; i < goingCount; i++) {
-                    grew |= leadAlong(t, parts, i);
+                for (int i = 0; i < going; i++) {
+                    grew |= leadAlong(i);
                 }
             }
         }
 
-        private boolean leadAlong(Town t, int parts, int i) {
-            int d = going[i];
-            int lends = (parts >> t.lender[d] & 1) == 1 ? t.lender[d] : t.borrower[d];
-            int borrows = t.otherIn(d, lends);
+        private boolean leadAlong(int i) {
             boolean back = (chosen >> i & 1) == 1;
-            int from = back ? borrows : lends;
-            int to = back ? lends : borrows;
-            int added = back ? -t.bothShares(d) : t.bothShares(d);
+            int from = back ? borrows[i] : lends[i];
+            int to = back ? lends[i] : borrows[i];
+            int added = back ? -worth[i] : worth[i];
             if (reach[from] == UNREACHED || reach[from] + added <= reach[to]) {
                 return false;
             }
@@ -1341,12 +1335,12 @@ public final class LendTown {
             return true;
         }
 
-        private int bestEnd(Town t, int parts) {
+        private int bestEnd(int persons, int parts) {
             int end = NONE;
             int most = 0;
-            for (int p = 0; p < t.persons; p++) {
-                boolean borrows = (parts >> p & 1) == 0;
-                if (borrows && room[p] > 0 && reach[p] > most) {
+            for (int p = 0; p < persons; p++) {
+                boolean borrower = (parts >> p & 1) == 0;
+                if (borrower && room[p] > 0 && reach[p] > most) {
                     most = reach[p];
                     end = p;
                 }
@@ -1354,12 +1348,12 @@ public final class LendTown {
             return end;
         }
 
-        private void turnPath(Town t, int last) {
+        private void turnPath(int last) {
             int p = last;
             for (int step = 0; step <= MOST_PERSONS && via[p] != NONE; step++) {
                 int i = via[p];
                 chosen ^= 1 << i;
-                p = t.otherIn(going[i], p);
+                p = lends[i] == p ? borrows[i] : lends[i];
             }
             room[p]--;
             room[last]--;

@@ -110,6 +110,8 @@ public final class PromiseTest {
         town("", 0, 0);
         town(" \n ", 0, 0);
         town("person abcdefg 0 59;", 1, 0);
+        town("person a 0 5;person aa 0 5;person aaa 0 5;person b 0 5;person ab 0 5;person ba 0 5;person bb 0 5;person bbb 0 5;", 8, 0);
+        town("person abcdefg 0 5;person abcdefh 0 5;person bbcdefg 0 5;person z 0 5;person zzzzzzz 0 5;", 5, 0);
         town(" person\na\n00 \n 09\n;\n", 1, 0);
         town("law life;law", -10, 3);
         faultAt("person ^abcdefgh 0 59;", 1);
@@ -281,13 +283,19 @@ public final class PromiseTest {
         Due.is("done", 0, x.count(3));
         Due.is("told", 0, x.told());
         Due.is("limit", 9, x.person(0, 2));
-        Due.is("same again", 3, Due.town(x, AB + "deal z a b 1 1 1;"));
-        Due.is("third town", 2, Due.town(x, AB));
+        Due.is("second town", 5, Due.town(x, AB + "deal z a b 1 1 1;part b borrows;limit b 3;"));
         Due.is("law of the first one is gone", 0, x.count(2));
-        Due.is("rests of the first one are gone", 4, x.rests(-1));
         Due.is("parts of the first one are gone", 0, x.told());
-        Due.is("limits of the first one are gone", 9, x.person(1, 2));
-        Due.is("deals of the first one are gone", 0, x.count(1));
+        Due.is("a's limit", 9, x.person(0, 2));
+        Due.is("b's limit", 3, x.person(1, 2));
+        Due.is("third town", 2, Due.town(x, AB));
+        Due.is("limits of others are gone", 9, x.person(1, 2));
+        Due.is("deals of others are gone", 0, x.count(1));
+        Due.is("all rest", 4, x.rests(-1));
+        Due.is("fourth town", 1, Due.town(x, "person a 0 5;"));
+        Due.is("all rest", 2, x.rests(-1));
+        Due.is("fifth town", 3, Due.town(x, ABC));
+        Due.is("rests of others are gone", 8, x.rests(-1));
     }
 
     private static void personAndDeal() {
@@ -738,6 +746,8 @@ public final class PromiseTest {
         Due.is("nobody", 0, new LendTown().fewest());
         LendTown often = Due.townOf(persons(2) + "deal da a b 1 0 0;deal db a b 1 0 0;deal dc a b 2 0 0;deal dd a b 2 0 0;");
         Due.is("two deals with one", 1, often.fewest());
+        LendTown turned = Due.townOf(persons(3) + "deal da b a 1 0 0 either;deal db b a 1 0 0 either;deal dc a c 2 0 0;");
+        Due.is("turned, two deals with one", 1, turned.fewest());
     }
 
     private static int meet(LendTown x, int... pairs) {
@@ -772,6 +782,7 @@ public final class PromiseTest {
         LendTown x = Due.townOf(persons(8));
         Due.is("nobody", 1, meet(x));
         Due.is("one pair", 2, meet(x, 3, 1));
+        Due.is("twice", 2, meet(x, 3, 1, 3, 1));
         Due.is("two groups", 4, meet(x, 3, 1, 0, 2));
         Due.is("a chain", 2, meet(x, 0, 1, 1, 2, 2, 3));
         Due.is("a ring of four", 2, meet(x, 0, 1, 1, 2, 2, 3, 3, 0));
@@ -906,11 +917,11 @@ public final class PromiseTest {
         Due.is("image is apart", 2, x.count(3));
         Due.yes("image(1)", x.image(1));
         Due.is("other town", -5, Due.town(x, "law x;"));
-        Due.is("other town", 2, Due.town(x, "person z 4 5;person y 4 5;"));
+        Due.is("other town", 3, Due.town(x, "person z 4 5;person y 4 5;person x 4 5;"));
         Due.is("climb", 0, x.climb(0));
         Due.is("best", 0, x.best());
         Due.is("lawful", 0, x.lawful());
-        Due.is("rests", 4, x.rests(-1));
+        Due.is("rests", 8, x.rests(-1));
         Due.feed(x, "abc");
         Due.yes("restore(0)", x.restore(0));
         Due.is("tape stays", 3, x.count(4));
