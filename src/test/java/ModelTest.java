@@ -27,6 +27,9 @@ public final class ModelTest {
         for (int seed = 1; seed <= runs; seed++) {
             new ModelTest(seed).go();
         }
+        for (int seed = 1; seed <= runs; seed++) {
+            new ModelTest(-seed).flows();
+        }
         Due.end();
     }
 
@@ -53,6 +56,33 @@ public final class ModelTest {
             while (calls < MOST_CALLS * i / towns) {
                 anyCall();
             }
+        }
+    }
+
+    /** Many DEALS in few years under small limits: long paths. */
+    private void flows() {
+        List<String> words = new ArrayList<>();
+        int n = 6 + below(5);
+        for (int p = 0; p < n; p++) {
+            add(words, "person", "" + (char) ('a' + p), "0", "9", ";", "limit", "" + (char) ('a' + p), "" + (1 + below(below(3) + 1)), ";");
+        }
+        int years = 1 + below(2);
+        int half = n / 2;
+        for (int d = 0; d < 20; d++) {
+            String lender = "" + (char) ('a' + below(half));
+            String borrower = "" + (char) ('a' + half + below(n - half));
+            boolean told = chance(60);
+            add(words, "deal", "d" + (char) ('a' + d), told ? lender : borrower, told ? borrower : lender, "" + below(years),
+                "" + (90 + below(10)), "0");
+            add(words, told ? new String[] {";"} : new String[] {"either", ";"});
+        }
+        town(joined(words));
+        for (int i = 0; i < 6; i++) {
+            int parts = i == 0 ? (1 << half) - 1 : below(1 << n);
+            int p = below(n);
+            same("gain(" + parts + ")", plain.gain(parts), real.gain(parts));
+            same("price(" + p + ", " + parts + ")", plain.price(p, parts), real.price(p, parts));
+            same("loss(" + p + ", " + parts + ")", plain.loss(p, parts), real.loss(p, parts));
         }
     }
 

@@ -88,6 +88,9 @@ public final class PromiseTest {
         x.end(13);
         Due.is("town()", 1, x.town());
         Due.is("born", 1, x.person(0, 0));
+        Due.feed(x, "law lifes");
+        x.end(8);
+        Due.is("a cut word ends at the cut", -9, x.town());
         x.feed(0x80ffffff, 0, 0, 0, 0);
         x.end(1);
         Due.is("town(), no TOKEN", -1, x.town());
@@ -265,6 +268,8 @@ public final class PromiseTest {
         town("person " + blanks(892) + "abcdefg 0 59;", -901, 1);
         town("person " + blanks(892) + "abcdefgh 0 59;", -900, 1);
         town("law " + blanks(900) + ".", -901, 1);
+        town(blanks(899) + "l".repeat(41), -900, 1);
+        town("person" + blanks(893) + "5".repeat(41), -900, 1);
     }
 
     private static void townReplaces() {
