@@ -1031,9 +1031,9 @@ public final class LendTown {
         }
 
         boolean goesBy(int d, int parts) {
-            boolean lenderLends = (parts >> lender[d] & 1) == 1;
-            boolean borrowerLends = (parts >> borrower[d] & 1) == 1;
-            return lenderLends != borrowerLends && (lenderLends || either[d] == 1);
+            int lenderLends = parts >> lender[d] & 1;
+            int borrowerLends = parts >> borrower[d] & 1;
+            return lenderLends != borrowerLends && (lenderLends == 1 || either[d] == 1);
         }
 
         int ownOf(int p, int parts) {
@@ -1199,8 +1199,8 @@ public final class LendTown {
                 int d = deal[i];
                 if (t.year[d] <= year && (foundNothing[i] >> p & 1) == 1) {
                     boolean bound = t.lawYears == 0 || year < t.year[d] + t.lawYears;
-                    boolean lends = (t.lender[d] == p) == (way[i] == AS_TOLD);
-                    return !bound ? NOTHING : lends ? LENDER : BORROWER;
+                    int lends = way[i] == TURNED ? t.borrower[d] : t.lender[d];
+                    return !bound ? NOTHING : lends == p ? LENDER : BORROWER;
                 }
             }
             return NOTHING;
@@ -1317,7 +1317,9 @@ public final class LendTown {
             for (int pass = 0; pass <= MOST_PERSONS && grew; pass++) {
                 grew = false;
                 for (int i = 0; i < going; i++) {
-                    grew |= leadAlong(i);
+                    if (leadAlong(i)) {
+                        grew = true;
+                    }
                 }
             }
         }
