@@ -4,6 +4,8 @@ import java.util.NoSuchElementException;
 final class Due {
     private static int wrong = 0;
     private static int asked = 0;
+    private static int sentences = 0;
+    private static String sentence = "";
 
     private Due() {
     }
@@ -12,12 +14,18 @@ final class Due {
         int answer();
     }
 
+    /** What is asked from here on tests this sentence of the document. */
+    static void sentence(String text) {
+        sentences++;
+        sentence = text + ": ";
+    }
+
     static void is(String call, long want, long got) {
         asked++;
         if (got != want) {
             wrong++;
             if (wrong < 50) {
-                System.out.println(call + " answered " + got + ", due is " + want);
+                System.out.println(sentence + call + " answered " + got + ", due is " + want);
             }
         }
     }
@@ -41,7 +49,7 @@ final class Due {
     }
 
     static void end() {
-        System.out.println(asked + " answers, " + wrong + " not due");
+        System.out.println((sentences > 0 ? sentences + " sentences, " : "") + asked + " answers, " + wrong + " not due");
         if (wrong > 0) {
             System.exit(1);
         }

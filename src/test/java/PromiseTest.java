@@ -1,9 +1,5 @@
 /** For each promise what the document tells by name: ordinary inputs, edges, wrong inputs. */
 public final class PromiseTest {
-    private static final String AB = "person a 0 59;person b 0 59;";
-    private static final String ABC = AB + "person c 0 59;";
-    private static final String ABCD = ABC + "person d 0 59;";
-
     public static void main(String[] args) {
         newObject();
         feedAndEnd();
@@ -96,184 +92,151 @@ public final class PromiseTest {
         Due.is("town(), no TOKEN", -1, x.town());
     }
 
-    private static void town(String text, int want, int fault) {
-        LendTown x = new LendTown();
-        Due.is("town of " + text, want, Due.town(x, text));
-        Due.is("fault of " + text, fault, x.fault());
-        Due.is("tape behind " + text, 0, x.count(4));
-    }
-
-    /** The FAULT is at the mark ^, which is not part of the text. */
-    private static void faultAt(String marked, int kind) {
-        int place = marked.indexOf('^');
-        town(marked.substring(0, place) + marked.substring(place + 1), -1 - place, kind);
-    }
-
     private static void townTokens() {
-        town("", 0, 0);
-        town(" \n ", 0, 0);
-        town("person abcdefg 0 59;", 1, 0);
-        town("person a 0 5;person aa 0 5;person aaa 0 5;person b 0 5;person ab 0 5;person ba 0 5;person bb 0 5;person bbb 0 5;", 8, 0);
-        town("person abcdefg 0 5;person abcdefh 0 5;person bbcdefg 0 5;person z 0 5;person zzzzzzz 0 5;", 5, 0);
-        town(" person\na\n00 \n 09\n;\n", 1, 0);
-        town("law life;law", -10, 3);
-        faultAt("person ^abcdefgh 0 59;", 1);
-        faultAt("person ^Abc 0 59;", 1);
-        faultAt("person a^B 0 59;", 1);
-        faultAt("person ^a1 0 59;", 1);
-        faultAt("person a ^0x 59;", 1);
-        faultAt("person a ^000 59;", 1);
-        faultAt("person a 0 ^059;", 1);
-        faultAt("person a^\t0 59;", 1);
-        faultAt("person a^\r0 59;", 1);
-        faultAt("person a ^-1 59;", 1);
-        faultAt("person a 0 59^.", 1);
-        faultAt("^.", 1);
-        faultAt("^;", 1);
-        faultAt("person a 0 59;^;", 1);
-        faultAt("^a", 1);
-        faultAt("^5", 1);
-        faultAt("^turned", 1);
-        faultAt("^\u00e9", 1);
-        faultAt("person a 0 59^", 1);
-        faultAt("person a 0 59 \n ^", 1);
-        faultAt("person a 0^", 1);
-        faultAt("person^", 1);
-        faultAt("person ^5 0 59;", 1);
-        faultAt("person ^; 0 59;", 1);
-        faultAt("person a ^b 59;", 1);
-        faultAt("person a 0 ^;", 1);
-        faultAt("person a 0 59 ^5;", 1);
-        faultAt("person a 0 59 ^either;", 1);
+        Texts.isTown("", 0);
+        Texts.isTown(" \n ", 0);
+        Texts.isTown("person abcdefg 0 59;", 1);
+        Texts.isTown("person a 0 5;person aa 0 5;person aaa 0 5;person b 0 5;person ab 0 5;person ba 0 5;person bb 0 5;person bbb 0 5;", 8);
+        Texts.isTown("person abcdefg 0 5;person abcdefh 0 5;person bbcdefg 0 5;person z 0 5;person zzzzzzz 0 5;", 5);
+        Texts.isTown(" person\na\n00 \n 09\n;\n", 1);
+        Texts.townFault("law life;law", 9, 3);
+        Texts.townFault("person ^abcdefgh 0 59;", 1);
+        Texts.townFault("person ^Abc 0 59;", 1);
+        Texts.townFault("person a^B 0 59;", 1);
+        Texts.townFault("person ^a1 0 59;", 1);
+        Texts.townFault("person a ^0x 59;", 1);
+        Texts.townFault("person a ^000 59;", 1);
+        Texts.townFault("person a 0 ^059;", 1);
+        Texts.townFault("person a^\t0 59;", 1);
+        Texts.townFault("person a^\r0 59;", 1);
+        Texts.townFault("person a ^-1 59;", 1);
+        Texts.townFault("person a 0 59^.", 1);
+        Texts.townFault("^.", 1);
+        Texts.townFault("^;", 1);
+        Texts.townFault("person a 0 59;^;", 1);
+        Texts.townFault("^a", 1);
+        Texts.townFault("^5", 1);
+        Texts.townFault("^turned", 1);
+        Texts.townFault("^\u00e9", 1);
+        Texts.townFault("person a 0 59^", 1);
+        Texts.townFault("person a 0 59 \n ^", 1);
+        Texts.townFault("person a 0^", 1);
+        Texts.townFault("person^", 1);
+        Texts.townFault("person ^5 0 59;", 1);
+        Texts.townFault("person ^; 0 59;", 1);
+        Texts.townFault("person a ^b 59;", 1);
+        Texts.townFault("person a 0 ^;", 1);
+        Texts.townFault("person a 0 59 ^5;", 1);
+        Texts.townFault("person a 0 59 ^either;", 1);
         for (String word : "person limit deal either law life years part lends borrows turned".split(" ")) {
-            faultAt("person ^" + word + " 0 59;", 1);
-            faultAt(AB + "limit ^" + word + " 1;", 1);
-            faultAt(AB + "part ^" + word + " lends;", 1);
-            faultAt(AB + "deal ^" + word + " a b 1 1 1;", 1);
-            faultAt(AB + "deal d ^" + word + " b 1 1 1;", 1);
-            faultAt(AB + "deal d a ^" + word + " 1 1 1;", 1);
+            Texts.townFault("person ^" + word + " 0 59;", 1);
+            Texts.townFault(Texts.AB + "limit ^" + word + " 1;", 1);
+            Texts.townFault(Texts.AB + "part ^" + word + " lends;", 1);
+            Texts.townFault(Texts.AB + "deal ^" + word + " a b 1 1 1;", 1);
+            Texts.townFault(Texts.AB + "deal d ^" + word + " b 1 1 1;", 1);
+            Texts.townFault(Texts.AB + "deal d a ^" + word + " 1 1 1;", 1);
         }
-        town("person lend 0 59;person year 0 59;person turn 0 59;", 3, 0);
-        town("person laws 0 59;person parts 0 59;person persons 0 59;", 3, 0);
-        faultAt("^laws life;", 1);
-        faultAt("^persons a 0 59;", 1);
-        faultAt("^la life;", 1);
-        faultAt(AB + "limit a ^b;", 1);
-        faultAt(AB + "limit a 1 ^", 1);
-        faultAt(AB + "part a ^life;", 1);
-        faultAt(AB + "part a lends ^lends;", 1);
-        faultAt(AB + "part a ^5;", 1);
-        faultAt(AB + "deal d a b 1 1 1 ^turned;", 1);
-        faultAt(AB + "deal d a b 1 1 1 ^1;", 1);
-        faultAt(AB + "deal d a b 1 1 ^either;", 1);
-        faultAt(AB + "deal d a b 1 1 1 either^", 1);
-        faultAt("law ^5;", 1);
-        faultAt("law ^year 5;", 1);
-        faultAt("law years ^life;", 1);
-        faultAt("law life ^5;", 1);
-        faultAt("law years 5 ^5;", 1);
+        Texts.isTown("person lend 0 59;person year 0 59;person turn 0 59;", 3);
+        Texts.isTown("person laws 0 59;person parts 0 59;person persons 0 59;", 3);
+        Texts.townFault("^laws life;", 1);
+        Texts.townFault("^persons a 0 59;", 1);
+        Texts.townFault("^la life;", 1);
+        Texts.townFault(Texts.AB + "limit a ^b;", 1);
+        Texts.townFault(Texts.AB + "limit a 1 ^", 1);
+        Texts.townFault(Texts.AB + "part a ^life;", 1);
+        Texts.townFault(Texts.AB + "part a lends ^lends;", 1);
+        Texts.townFault(Texts.AB + "part a ^5;", 1);
+        Texts.townFault(Texts.AB + "deal d a b 1 1 1 ^turned;", 1);
+        Texts.townFault(Texts.AB + "deal d a b 1 1 1 ^1;", 1);
+        Texts.townFault(Texts.AB + "deal d a b 1 1 ^either;", 1);
+        Texts.townFault(Texts.AB + "deal d a b 1 1 1 either^", 1);
+        Texts.townFault("law ^5;", 1);
+        Texts.townFault("law ^year 5;", 1);
+        Texts.townFault("law years ^life;", 1);
+        Texts.townFault("law life ^5;", 1);
+        Texts.townFault("law years 5 ^5;", 1);
     }
 
     private static void townNumbers() {
-        town("person a 59 59;", 1, 0);
-        faultAt("person a ^60 60;", 2);
-        faultAt("person a 0 ^60;", 2);
-        faultAt("person a 7 ^6;", 2);
-        town(AB + "limit a 9;limit b 0;", 4, 0);
-        faultAt(AB + "limit a ^10;", 2);
-        town("law years 60;", 1, 0);
-        town("law years 1;", 1, 0);
-        faultAt("law years ^0;", 2);
-        faultAt("law years ^61;", 2);
+        Texts.isTown("person a 59 59;", 1);
+        Texts.townFault("person a ^60 60;", 2);
+        Texts.townFault("person a 0 ^60;", 2);
+        Texts.townFault("person a 7 ^6;", 2);
+        Texts.isTown(Texts.AB + "limit a 9;limit b 0;", 4);
+        Texts.townFault(Texts.AB + "limit a ^10;", 2);
+        Texts.isTown("law years 60;", 1);
+        Texts.isTown("law years 1;", 1);
+        Texts.townFault("law years ^0;", 2);
+        Texts.townFault("law years ^61;", 2);
         String lives = "person a 3 9;person b 5 20;";
-        town(lives + "deal d a b 5 99 0;deal e b a 9 0 99 either;", 4, 0);
-        faultAt(lives + "deal d a b ^4 1 1;", 2);
-        faultAt(lives + "deal d a b ^10 1 1;", 2);
-        faultAt(lives + "deal d b a ^4 1 1;", 2);
-        faultAt(lives + "deal d b a ^10 1 1;", 2);
-        faultAt(lives + "deal d b a ^60 1 1;", 2);
-        faultAt("person a 0 4;person b 5 9;deal d a b ^4 1 1;", 2);
-        faultAt(lives + "deal d b a 5 ^100 1;", 1);
+        Texts.isTown(lives + "deal d a b 5 99 0;deal e b a 9 0 99 either;", 4);
+        Texts.townFault(lives + "deal d a b ^4 1 1;", 2);
+        Texts.townFault(lives + "deal d a b ^10 1 1;", 2);
+        Texts.townFault(lives + "deal d b a ^4 1 1;", 2);
+        Texts.townFault(lives + "deal d b a ^10 1 1;", 2);
+        Texts.townFault(lives + "deal d b a ^60 1 1;", 2);
+        Texts.townFault("person a 0 4;person b 5 9;deal d a b ^4 1 1;", 2);
+        Texts.townFault(lives + "deal d b a 5 ^100 1;", 1);
     }
 
     private static void townNames() {
-        faultAt(AB + "person ^a 0 5;", 3);
-        faultAt(AB + "deal d a b 1 1 1;person ^d 0 5;", 3);
-        faultAt(AB + "deal d a b 1 1 1;deal ^d a b 1 1 1;", 3);
-        faultAt(AB + "deal ^a a b 1 1 1;", 3);
-        faultAt(AB + "deal d ^d b 1 1 1;", 3);
-        faultAt(AB + "deal d a ^d 1 1 1;", 3);
-        faultAt(AB + "deal d ^c b 1 1 1;", 3);
-        faultAt(AB + "deal d a ^c 1 1 1;", 3);
-        faultAt(AB + "deal d a ^a 1 1 1;", 3);
-        faultAt(AB + "deal d a b 1 1 1;limit ^d 1;", 3);
-        faultAt(AB + "limit ^c 1;person c 0 5;", 3);
-        faultAt(AB + "part ^c lends;person c 0 5;", 3);
-        faultAt(AB + "limit a 9;limit ^a 9;", 3);
-        faultAt(AB + "part a borrows;part ^a lends;", 3);
-        faultAt("law years 5;^law life;", 3);
-        faultAt("law life;^law", 3);
-        town(AB + "limit a 1;part a lends;limit b 1;part b lends;law life;", 7, 0);
-    }
-
-    private static String persons(int n) {
-        StringBuilder text = new StringBuilder();
-        for (int i = 0; i < n; i++) {
-            text.append("person ").append((char) ('a' + i)).append(" 0 59;");
-        }
-        return text.toString();
-    }
-
-    private static String deals(int n) {
-        StringBuilder text = new StringBuilder();
-        for (int i = 0; i < n; i++) {
-            text.append("deal x").append((char) ('a' + i % 26)).append((char) ('a' + i / 26)).append(" a b 5 1 1;");
-        }
-        return text.toString();
+        Texts.townFault(Texts.AB + "person ^a 0 5;", 3);
+        Texts.townFault(Texts.AB + "deal d a b 1 1 1;person ^d 0 5;", 3);
+        Texts.townFault(Texts.AB + "deal d a b 1 1 1;deal ^d a b 1 1 1;", 3);
+        Texts.townFault(Texts.AB + "deal ^a a b 1 1 1;", 3);
+        Texts.townFault(Texts.AB + "deal d ^d b 1 1 1;", 3);
+        Texts.townFault(Texts.AB + "deal d a ^d 1 1 1;", 3);
+        Texts.townFault(Texts.AB + "deal d ^c b 1 1 1;", 3);
+        Texts.townFault(Texts.AB + "deal d a ^c 1 1 1;", 3);
+        Texts.townFault(Texts.AB + "deal d a ^a 1 1 1;", 3);
+        Texts.townFault(Texts.AB + "deal d a b 1 1 1;limit ^d 1;", 3);
+        Texts.townFault(Texts.AB + "limit ^c 1;person c 0 5;", 3);
+        Texts.townFault(Texts.AB + "part ^c lends;person c 0 5;", 3);
+        Texts.townFault(Texts.AB + "limit a 9;limit ^a 9;", 3);
+        Texts.townFault(Texts.AB + "part a borrows;part ^a lends;", 3);
+        Texts.townFault("law years 5;^law life;", 3);
+        Texts.townFault("law life;^law", 3);
+        Texts.isTown(Texts.AB + "limit a 1;part a lends;limit b 1;part b lends;law life;", 7);
     }
 
     private static void townMost() {
-        town(persons(10), 10, 0);
-        faultAt(persons(10) + "^person k 0 59;", 4);
-        faultAt(persons(10) + "^person", 4);
-        faultAt(persons(10) + "^person a 70 59;", 4);
-        town(AB + deals(30), 32, 0);
-        faultAt(AB + deals(30) + "^deal z a b 5 1 1;", 4);
-        faultAt(AB + deals(30) + "^deal", 4);
-        faultAt(AB + deals(30) + "law ^deal", 1);
-    }
-
-    private static String blanks(int n) {
-        return " ".repeat(Math.max(0, n));
+        Texts.isTown(Texts.persons(10), 10);
+        Texts.townFault(Texts.persons(10) + "^person k 0 59;", 4);
+        Texts.townFault(Texts.persons(10) + "^person", 4);
+        Texts.townFault(Texts.persons(10) + "^person a 70 59;", 4);
+        Texts.isTown(Texts.AB + Texts.deals(30, 5), 32);
+        Texts.townFault(Texts.AB + Texts.deals(30, 5) + "^deal z a b 5 1 1;", 4);
+        Texts.townFault(Texts.AB + Texts.deals(30, 5) + "^deal", 4);
+        Texts.townFault(Texts.AB + Texts.deals(30, 5) + "law ^deal", 1);
     }
 
     private static void townLength() {
-        town(blanks(900), 0, 0);
-        town(blanks(901), -901, 1);
-        town(blanks(940), -901, 1);
+        Texts.isTown(Texts.blanks(900), 0);
+        Texts.townFault(Texts.blanks(901), 900, 1);
+        Texts.townFault(Texts.blanks(940), 900, 1);
         String line = "person a 0 59;";
-        town(blanks(900 - line.length()) + line, 1, 0);
-        town(blanks(901 - line.length()) + line, -901, 1);
-        town(line + blanks(901 - line.length()), -901, 1);
-        town(line + blanks(900 - line.length() - 3) + "law", -901, 1);
-        town(line + blanks(900 - line.length() - 3) + "law years", -901, 1);
+        Texts.isTown(Texts.blanks(900 - line.length()) + line, 1);
+        Texts.townFault(Texts.blanks(901 - line.length()) + line, 900, 1);
+        Texts.townFault(line + Texts.blanks(901 - line.length()), 900, 1);
+        Texts.townFault(line + Texts.blanks(900 - line.length() - 3) + "law", 900, 1);
+        Texts.townFault(line + Texts.blanks(900 - line.length() - 3) + "law years", 900, 1);
         // a TOKEN that begins ahead of the end is read whole, a FAULT of it is at it
-        town(line + blanks(899 - line.length()) + "law", -901, 1);
-        town(line + blanks(899 - line.length()) + "lax", -900, 1);
-        town(line + blanks(899 - line.length()) + "l", -900, 1);
-        town("person a 0" + blanks(889) + "123;", -900, 1);
-        town("person a 0" + blanks(889) + "60;", -900, 2);
-        town("person a 9" + blanks(889) + "10;", -901, 1);
-        town("person a 9" + blanks(890) + "5x;", -901, 1);
-        town("person " + blanks(892) + "abcdefg 0 59;", -901, 1);
-        town("person " + blanks(892) + "abcdefgh 0 59;", -900, 1);
-        town("law " + blanks(900) + ".", -901, 1);
-        town(blanks(899) + "l".repeat(41), -900, 1);
-        town("person" + blanks(893) + "5".repeat(41), -900, 1);
+        Texts.townFault(line + Texts.blanks(899 - line.length()) + "law", 900, 1);
+        Texts.townFault(line + Texts.blanks(899 - line.length()) + "lax", 899, 1);
+        Texts.townFault(line + Texts.blanks(899 - line.length()) + "l", 899, 1);
+        Texts.townFault("person a 0" + Texts.blanks(889) + "123;", 899, 1);
+        Texts.townFault("person a 0" + Texts.blanks(889) + "60;", 899, 2);
+        Texts.townFault("person a 9" + Texts.blanks(889) + "10;", 900, 1);
+        Texts.townFault("person a 9" + Texts.blanks(890) + "5x;", 900, 1);
+        Texts.townFault("person " + Texts.blanks(892) + "abcdefg 0 59;", 900, 1);
+        Texts.townFault("person " + Texts.blanks(892) + "abcdefgh 0 59;", 899, 1);
+        Texts.townFault("law " + Texts.blanks(900) + ".", 900, 1);
+        Texts.townFault(Texts.blanks(899) + "l".repeat(41), 899, 1);
+        Texts.townFault("person" + Texts.blanks(893) + "5".repeat(41), 899, 1);
     }
 
     private static void townReplaces() {
-        LendTown x = Due.townOf(AB + "law years 3;part b lends;limit b 2;deal d a b 1 1 1;");
+        LendTown x = Due.townOf(Texts.AB + "law years 3;part b lends;limit b 2;deal d a b 1 1 1;");
         x.does(0, 0);
         Due.is("at rest", 2, x.rests(-1));
         Due.is("bad town", -5, Due.town(x, "law death;"));
@@ -288,18 +251,18 @@ public final class PromiseTest {
         Due.is("done", 0, x.count(3));
         Due.is("told", 0, x.told());
         Due.is("limit", 9, x.person(0, 2));
-        Due.is("second town", 5, Due.town(x, AB + "deal z a b 1 1 1;part b borrows;limit b 3;"));
+        Due.is("second town", 5, Due.town(x, Texts.AB + "deal z a b 1 1 1;part b borrows;limit b 3;"));
         Due.is("law of the first one is gone", 0, x.count(2));
         Due.is("parts of the first one are gone", 0, x.told());
         Due.is("a's limit", 9, x.person(0, 2));
         Due.is("b's limit", 3, x.person(1, 2));
-        Due.is("third town", 2, Due.town(x, AB));
+        Due.is("third town", 2, Due.town(x, Texts.AB));
         Due.is("limits of others are gone", 9, x.person(1, 2));
         Due.is("deals of others are gone", 0, x.count(1));
         Due.is("all rest", 4, x.rests(-1));
         Due.is("fourth town", 1, Due.town(x, "person a 0 5;"));
         Due.is("all rest", 2, x.rests(-1));
-        Due.is("fifth town", 3, Due.town(x, ABC));
+        Due.is("fifth town", 3, Due.town(x, Texts.ABC));
         Due.is("rests of others are gone", 8, x.rests(-1));
     }
 
@@ -335,7 +298,7 @@ public final class PromiseTest {
     }
 
     private static void doesAndUndo() {
-        LendTown x = Due.townOf(AB + "deal d a b 1 1 1;deal e a b 2 1 1 either;");
+        LendTown x = Due.townOf(Texts.AB + "deal d a b 1 1 1;deal e a b 2 1 1 either;");
         Due.is("does(2, 0)", -1, x.does(2, 0));
         Due.is("does(-1, 0)", -1, x.does(-1, 0));
         Due.is("does(0, 2)", -1, x.does(0, 2));
@@ -355,7 +318,7 @@ public final class PromiseTest {
     }
 
     private static void wrongKinds() {
-        LendTown x = Due.townOf(ABCD + "limit d 1;law years 2;"
+        LendTown x = Due.townOf(Texts.ABCD + "limit d 1;law years 2;"
             + "deal da a b 5 1 1;deal db c b 4 1 1;deal dc b c 5 1 1;deal dd c a 5 1 1;deal de a d 5 1 1;"
             + "deal df c d 5 1 1;deal dg b a 5 1 1 either;deal dh b a 7 1 1;deal di b a 6 1 1;deal dj d c 5 1 1 either;");
         Due.is("done: da", 0, x.does(0, 0));
@@ -375,21 +338,21 @@ public final class PromiseTest {
         Due.is("3 behind a later year", 3, x.does(5, 0));
         Due.is("b now lends", 1, x.is(1, 8));
         Due.is("b borrowed then", 2, x.is(1, 6));
-        LendTown nine = Due.townOf(AB + deals(11));
+        LendTown nine = Due.townOf(Texts.AB + Texts.deals(11, 5));
         for (int d = 0; d < 9; d++) {
             Due.is("nine a year", 0, nine.does(d, 0));
         }
         Due.is("the tenth", 6, nine.does(9, 0));
-        LendTown zero = Due.townOf(AB + "limit b 0;deal d a b 1 1 1;deal e b a 1 1 1;");
+        LendTown zero = Due.townOf(Texts.AB + "limit b 0;deal d a b 1 1 1;deal e b a 1 1 1;");
         Due.is("limit 0, borrower", 6, zero.does(0, 0));
         Due.is("limit 0, lender", 6, zero.does(1, 0));
-        LendTown each = Due.townOf(AB + "limit a 1;deal d a b 1 1 1;deal e a b 2 1 1;");
+        LendTown each = Due.townOf(Texts.AB + "limit a 1;deal d a b 1 1 1;deal e a b 2 1 1;");
         Due.is("a year", 0, each.does(0, 0));
         Due.is("another year", 0, each.does(1, 0));
     }
 
     private static void bookLines() {
-        LendTown x = Due.townOf(AB + "deal d a b 5 1 1;deal e a b 6 1 1 either;deal f b a 7 1 1;");
+        LendTown x = Due.townOf(Texts.AB + "deal d a b 5 1 1;deal e a b 6 1 1 either;deal f b a 7 1 1;");
         Due.is("book", -1, Due.book(x, "d;e;"));
         Due.is("why", 0, x.why());
         Due.is("done", 2, x.count(3));
@@ -409,7 +372,7 @@ public final class PromiseTest {
         Due.is("book", 1, Due.book(x, "d;d;"));
         Due.is("why", 1, x.why());
         Due.is("tape", 0, x.count(4));
-        LendTown all = Due.townOf(AB + "law years 1;limit a 9;" + deals(9));
+        LendTown all = Due.townOf(Texts.AB + "law years 1;limit a 9;" + Texts.deals(9, 5));
         Due.is("40 lines", 1, Due.book(all, "xaa;".repeat(40)));
     }
 
@@ -424,7 +387,7 @@ public final class PromiseTest {
     }
 
     private static void bookFaults() {
-        LendTown x = Due.townOf(AB + "deal d a b 5 1 1;deal e a b 6 1 1 either;");
+        LendTown x = Due.townOf(Texts.AB + "deal d a b 5 1 1;deal e a b 6 1 1 either;");
         Due.is("book", 1, Due.book(x, "d;d;"));
         bookFault(x, "^turned;", 1);
         bookFault(x, "^person;", 1);
@@ -441,14 +404,14 @@ public final class PromiseTest {
         bookFault(x, "e;".repeat(40) + "^e", 4);
         bookFault(x, "e;".repeat(40) + "^x", 3);
         bookFault(x, "e;".repeat(40) + "^turned", 1);
-        bookFault(x, blanks(600) + "^ ", 1);
-        bookFault(x, "e;" + blanks(598) + "^.", 1);
-        bookFault(x, "e" + blanks(598) + "^turn;", 1);
-        bookFault(x, "e" + blanks(598) + "t^urned;".replace("^", "") + "^", 1, 600);
-        bookFault(x, blanks(599) + "^xy", 3);
-        Due.is("600 bytes", -1, Due.book(x, blanks(598) + "e;"));
+        bookFault(x, Texts.blanks(600) + "^ ", 1);
+        bookFault(x, "e;" + Texts.blanks(598) + "^.", 1);
+        bookFault(x, "e" + Texts.blanks(598) + "^turn;", 1);
+        bookFault(x, "e" + Texts.blanks(598) + "t^urned;".replace("^", "") + "^", 1, 600);
+        bookFault(x, Texts.blanks(599) + "^xy", 3);
+        Due.is("600 bytes", -1, Due.book(x, Texts.blanks(598) + "e;"));
         Due.is("fault", 0, x.fault());
-        Due.is("601 bytes", -602, Due.book(x, blanks(599) + "e;"));
+        Due.is("601 bytes", -602, Due.book(x, Texts.blanks(599) + "e;"));
         Due.is("fault", 1, x.fault());
         Due.is("town behind", 0, Due.town(x, ""));
         Due.is("fault", 0, x.fault());
@@ -480,7 +443,7 @@ public final class PromiseTest {
         Due.is("from then on", 1, life.is(0, 5));
         Due.is("for good", 1, life.is(0, 59));
         Due.is("for good", 2, life.is(1, 59));
-        LendTown one = Due.townOf(AB + "law years 1;deal d a b 5 1 1;deal e b a 6 1 1;");
+        LendTown one = Due.townOf(Texts.AB + "law years 1;deal d a b 5 1 1;deal e b a 6 1 1;");
         Due.is("each year anew", -1, Due.book(one, "d;e;"));
         Due.is("lender", 1, one.is(0, 5));
         Due.is("borrower", 2, one.is(0, 6));
@@ -488,7 +451,7 @@ public final class PromiseTest {
     }
 
     private static void mayAndHad() {
-        LendTown x = Due.townOf(ABC + "deal d a b 5 3 4;deal e b c 6 10 20 either;deal f c a 5 7 8;deal g a c 4 1 1;");
+        LendTown x = Due.townOf(Texts.ABC + "deal d a b 5 3 4;deal e b c 6 10 20 either;deal f c a 5 7 8;deal g a c 4 1 1;");
         Due.is("may(0)", 15, x.may(0));
         Due.is("may(1)", 2, x.may(1));
         Due.is("may(2)", -1, x.may(2));
@@ -504,7 +467,7 @@ public final class PromiseTest {
         Due.is("gains stay", 20, x.had(2));
         Due.is("had(3)", -1, x.had(3));
         Due.is("had(-1)", -1, x.had(-1));
-        LendTown many = Due.townOf(persons(10) + deals(30));
+        LendTown many = Due.townOf(Texts.persons(10) + Texts.deals(30, 5));
         Due.is("may, 30 deals", (1 << 30) - 1, many.may(0));
         Due.is("goes, 30 deals", (1 << 30) - 1, many.goes(1));
         Due.is("gain, limit 9", 18, many.gain(1));
@@ -512,7 +475,7 @@ public final class PromiseTest {
 
     private static void gainByLimits() {
         // a and b lend, c and d borrow: the greatest one (a-c) would block two that are greater together
-        LendTown x = Due.townOf(ABCD + "limit a 1;limit b 1;limit c 1;limit d 1;"
+        LendTown x = Due.townOf(Texts.ABCD + "limit a 1;limit b 1;limit c 1;limit d 1;"
             + "deal da a c 5 5 5;deal db a d 5 4 4;deal dc b c 5 3 4;deal dd b d 6 50 0;deal de d b 6 2 0;");
         Due.is("two for one", 8 + 7 + 50, x.gain(3));
         Due.is("c alone borrows of a", 10, x.gain(1));
@@ -521,20 +484,20 @@ public final class PromiseTest {
         Due.is("all lend", 0, x.gain(15));
         Due.is("no parts", -1, x.gain(16));
         Due.is("no parts", -1, x.gain(-1));
-        LendTown twice = Due.townOf(AB + "limit b 2;deal d a b 5 1 0;deal e a b 5 0 2;deal f b a 5 3 1 either;deal g a b 6 0 9;");
+        LendTown twice = Due.townOf(Texts.AB + "limit b 2;deal d a b 5 1 0;deal e a b 5 0 2;deal f b a 5 3 1 either;deal g a b 6 0 9;");
         Due.is("two of three", 2 + 4 + 9, twice.gain(1));
         Due.is("only f goes", 4, twice.gain(2));
         // a path of three changes: first the greatest, then back along it twice
-        LendTown path = Due.townOf(persons(6) + "limit a 1;limit b 1;limit c 1;limit d 1;limit e 1;limit f 1;"
+        LendTown path = Due.townOf(Texts.persons(6) + "limit a 1;limit b 1;limit c 1;limit d 1;limit e 1;limit f 1;"
             + "deal da a d 1 20 0;deal db a e 1 19 0;deal dc b d 1 18 0;deal dd b e 1 19 0;deal de b f 1 1 0;deal df c d 1 16 0;");
         Due.is("two are more than three", 20 + 19, path.gain(7));
-        LendTown three = Due.townOf(persons(6) + "limit a 1;limit b 1;limit c 1;limit d 1;limit e 1;limit f 1;"
+        LendTown three = Due.townOf(Texts.persons(6) + "limit a 1;limit b 1;limit c 1;limit d 1;limit e 1;limit f 1;"
             + "deal da a d 1 20 0;deal db a e 1 19 0;deal dc b e 1 20 0;deal dd b f 1 15 0;deal de c d 1 16 0;");
         Due.is("three of most", 19 + 15 + 16, three.gain(7));
     }
 
     private static void bestAndAbove() {
-        LendTown x = Due.townOf(ABC + "deal d a b 5 3 4;deal e b c 6 3 4;deal f c a 7 3 4;");
+        LendTown x = Due.townOf(Texts.ABC + "deal d a b 5 3 4;deal e b c 6 3 4;deal f c a 7 3 4;");
         Due.is("best", 7, x.best());
         Due.is("bestParts, the least", 1, x.bestParts());
         Due.is("above 7", 6, x.above(7));
@@ -542,7 +505,7 @@ public final class PromiseTest {
         Due.is("above 0", 8, x.above(0));
         Due.is("above MIN", 8, x.above(Integer.MIN_VALUE));
         Due.is("above MAX", 0, x.above(Integer.MAX_VALUE));
-        LendTown late = Due.townOf(ABC + "deal d a b 5 3 4;deal e c b 6 3 4;");
+        LendTown late = Due.townOf(Texts.ABC + "deal d a b 5 3 4;deal e c b 6 3 4;");
         Due.is("best", 14, late.best());
         Due.is("bestParts", 5, late.bestParts());
         Due.is("best told anew", 0, Due.town(late, ""));
@@ -551,7 +514,7 @@ public final class PromiseTest {
     }
 
     private static void goesAndOwn() {
-        LendTown x = Due.townOf(ABC + "limit a 0;deal d a b 5 3 4;deal e b c 6 10 20 either;deal f a c 7 7 8 either;");
+        LendTown x = Due.townOf(Texts.ABC + "limit a 0;deal d a b 5 3 4;deal e b c 6 10 20 either;deal f a c 7 7 8 either;");
         for (int parts = 0; parts < 8; parts++) {
             boolean a = (parts & 1) != 0;
             boolean b = (parts & 2) != 0;
@@ -570,11 +533,11 @@ public final class PromiseTest {
     }
 
     private static void priceAndLoss() {
-        LendTown x = Due.townOf(AB + "limit a 1;limit b 2;deal d a b 5 1 1;deal e a b 5 3 3;deal f a b 5 2 2;deal g a b 6 0 1;");
+        LendTown x = Due.townOf(Texts.AB + "limit a 1;limit b 2;deal d a b 5 1 1;deal e a b 5 3 3;deal f a b 5 2 2;deal g a b 6 0 1;");
         Due.is("gain", 7, x.gain(1));
         Due.is("price of a", 4, x.price(0, 1));
         Due.is("price of b", 0, x.price(1, 1));
-        LendTown step = Due.townOf(AB + "limit a 1;deal d a b 5 1 1;deal e a b 5 3 3;deal f a b 5 2 2;");
+        LendTown step = Due.townOf(Texts.AB + "limit a 1;deal d a b 5 1 1;deal e a b 5 3 3;deal f a b 5 2 2;");
         Due.is("one more alone", 4, step.price(0, 1));
         Due.is("loss of a", 7, x.loss(0, 1));
         Due.is("loss of b", 7, x.loss(1, 1));
@@ -586,7 +549,7 @@ public final class PromiseTest {
         }
         Due.is("limits are as before", 7, x.gain(1));
         Due.is("limit told", 1, x.person(0, 2));
-        LendTown ten = Due.townOf(ABC + "limit b 9;deal q c b 5 50 0;" + deals(9));
+        LendTown ten = Due.townOf(Texts.ABC + "limit b 9;deal q c b 5 50 0;" + Texts.deals(9, 5));
         Due.is("nine of ten", 50 + 16, ten.gain(5));
         Due.is("a tenth", 2, ten.price(1, 5));
         Due.is("not a's", 0, ten.price(0, 5));
@@ -594,7 +557,7 @@ public final class PromiseTest {
     }
 
     private static void climbing() {
-        LendTown x = Due.townOf(ABC + "deal d a b 5 1 1;deal e b c 5 5 5;deal f c a 5 2 1;");
+        LendTown x = Due.townOf(Texts.ABC + "deal d a b 5 1 1;deal e b c 5 5 5;deal f c a 5 2 1;");
         // GAIN by parts: 1:2 2:10 3:10 4:3 5:2 6:3
         Due.is("climb(5)", 4, x.climb(5));
         Due.is("climbed", 1, x.climbed());
@@ -612,7 +575,7 @@ public final class PromiseTest {
     }
 
     private static void restsAndRounds() {
-        LendTown x = Due.townOf(AB + "deal d a b 1 5 0;deal e b a 2 0 6;deal f a b 3 1 1;");
+        LendTown x = Due.townOf(Texts.AB + "deal d a b 1 5 0;deal e b a 2 0 6;deal f a b 3 1 1;");
         Due.is("how many", 2, x.rests(-1));
         Due.is("first", 1, x.rests(0));
         Due.is("second", 2, x.rests(1));
@@ -630,14 +593,14 @@ public final class PromiseTest {
         Due.is("ended(2)", -1, x.ended(2));
         Due.is("rounds(1)", 1, x.rounds(1));
         Due.is("ended", 1, x.ended(0));
-        LendTown limits = Due.townOf(AB + "limit a 0;deal d a b 1 5 0;");
+        LendTown limits = Due.townOf(Texts.AB + "limit a 0;deal d a b 1 5 0;");
         Due.is("limits count nothing", 3, limits.rests(-1));
         Due.is("a lends", 1, limits.rests(0));
         Due.is("both lend", 3, limits.rests(2));
     }
 
     private static void ring() {
-        LendTown chase = Due.townOf(ABC + "deal d a c 1 9 0 either;deal e b a 2 9 0 either;deal f c b 3 9 0 either;");
+        LendTown chase = Due.townOf(Texts.ABC + "deal d a c 1 9 0 either;deal e b a 2 9 0 either;deal f c b 3 9 0 either;");
         // each of three wants to differ from the next one: 0 -> a, then b stays, c changes ..
         Due.is("no rest", 0, chase.rests(-1));
         Due.is("no first", -1, chase.rests(0));
@@ -649,7 +612,7 @@ public final class PromiseTest {
         Due.is("rounds(5)", 2, chase.rounds(5));
         Due.is("ring of two", 2, chase.ended(1));
         Due.is("parts", 5, chase.ended(0));
-        Due.town(chase, AB);
+        Due.town(chase, Texts.AB);
         Due.is("ended tells of the latest rounds", 2, chase.ended(1));
         Due.is("nothing to gain", 1, chase.rounds(3));
         Due.is("parts", 3, chase.ended(0));
@@ -657,7 +620,7 @@ public final class PromiseTest {
     }
 
     private static void oneYears() {
-        LendTown x = Due.townOf(ABC + "limit b 0;part a lends;law years 4;"
+        LendTown x = Due.townOf(Texts.ABC + "limit b 0;part a lends;law years 4;"
             + "deal d a b 3 1 5;deal e b c 7 6 1;deal f b c 8 7 0;deal g a b 10 0 9;");
         // to lend in 6 already makes him free in 10
         Due.is("one", 5 + 6 + 7 + 9, x.one(1, 1));
@@ -685,15 +648,15 @@ public final class PromiseTest {
         Due.is("oneIs(-1)", -1, x.oneIs(-1));
         Due.is("oneIs(60)", -1, x.oneIs(60));
         Due.is("oneIs(59)", 0, x.oneIs(59));
-        LendTown like = Due.townOf(ABC + "deal d b a 3 5 1;deal e a b 4 1 5;deal f b c 50 0 1;deal g b c 59 0 0;");
+        LendTown like = Due.townOf(Texts.ABC + "deal d b a 3 5 1;deal e a b 4 1 5;deal f b c 50 0 1;deal g b c 59 0 0;");
         Due.is("one", 5, like.one(1, 1));
         Due.is("nothing first", 0, like.oneIs(3));
         Due.is("borrows in 4", 2, like.oneIs(4));
-        LendTown tie = Due.townOf(ABC + "part a lends;deal d b c 3 5 1;deal e a b 3 1 5;");
+        LendTown tie = Due.townOf(Texts.ABC + "part a lends;deal d b c 3 5 1;deal e a b 3 1 5;");
         Due.is("one", 5, tie.one(1, 1));
         Due.is("lends ahead of borrows", 1, tie.oneIs(3));
         // bound at a year without gain, so that he is free in time
-        LendTown early2 = Due.townOf(ABC + "law years 3;deal d b c 5 4 0;deal e a b 7 0 4;deal f b c 4 0 0;");
+        LendTown early2 = Due.townOf(Texts.ABC + "law years 3;deal d b c 5 4 0;deal e a b 7 0 4;deal f b c 4 0 0;");
         Due.is("both", 8, early2.one(1, 1));
         Due.is("nothing in 2", 0, early2.oneIs(2));
         Due.is("ahead of it", 0, early2.oneIs(3));
@@ -704,7 +667,7 @@ public final class PromiseTest {
     }
 
     private static void lawfulWays() {
-        LendTown x = Due.townOf(ABC + "deal d a b 5 3 4;deal e b c 4 9 0 either;deal f b a 5 1 1 either;");
+        LendTown x = Due.townOf(Texts.ABC + "deal d a b 5 3 4;deal e b c 4 9 0 either;deal f b a 5 1 1 either;");
         // by year: e, d, f; e turned leaves b a borrower: d and f turned go too
         Due.is("lawful", 18, x.lawful());
         Due.is("d", 1, x.lawfulBy(0));
@@ -715,25 +678,25 @@ public final class PromiseTest {
         Due.is("done counts nothing", 0, x.does(0, 0));
         Due.is("lawful", 18, x.lawful());
         Due.is("book stays", 1, x.count(3));
-        Due.town(x, ABC + "limit a 1;deal d a b 5 1 1;deal e a b 5 1 1 either;");
+        Due.town(x, Texts.ABC + "limit a 1;deal d a b 5 1 1;deal e a b 5 1 1 either;");
         Due.is("told before", 2, x.lawfulBy(2));
         Due.is("lawful", 2, x.lawful());
         Due.is("not done first", 0, x.lawfulBy(0));
         Due.is("as told ahead of TURNED", 1, x.lawfulBy(1));
         Due.is("no such now", -1, x.lawfulBy(2));
-        Due.town(x, AB + "limit a 9;" + deals(13));
+        Due.town(x, Texts.AB + "limit a 9;" + Texts.deals(13, 5));
         Due.is("13 deals", -1, x.lawful());
         Due.is("stays", 1, x.lawfulBy(1));
         Due.is("none of then", -1, x.lawfulBy(2));
-        Due.town(x, AB + "limit a 9;" + deals(12));
+        Due.town(x, Texts.AB + "limit a 9;" + Texts.deals(12, 5));
         Due.is("12 deals", 18, x.lawful());
         for (int d = 0; d < 12; d++) {
             Due.is("the first ones are left out", d < 3 ? 0 : 1, x.lawfulBy(d));
         }
-        LendTown zero = Due.townOf(AB + "deal d a b 5 0 0 either;");
+        LendTown zero = Due.townOf(Texts.AB + "deal d a b 5 0 0 either;");
         Due.is("lawful", 0, zero.lawful());
         Due.is("not done", 0, zero.lawfulBy(0));
-        LendTown years = Due.townOf(AB + "law years 2;deal d a b 5 1 0;deal e b a 6 1 0;deal f b a 7 1 0;");
+        LendTown years = Due.townOf(Texts.AB + "law years 2;deal d a b 5 1 0;deal e b a 6 1 0;deal f b a 7 1 0;");
         Due.is("free again", 2, years.lawful());
         Due.is("d left out", 0, years.lawfulBy(0));
         Due.is("e", 1, years.lawfulBy(1));
@@ -741,17 +704,17 @@ public final class PromiseTest {
     }
 
     private static void fewestLenders() {
-        LendTown x = Due.townOf(persons(5) + "deal da a b 1 0 0;deal db a c 1 0 0;deal dc d a 1 0 0;");
+        LendTown x = Due.townOf(Texts.persons(5) + "deal da a b 1 0 0;deal db a c 1 0 0;deal dc d a 1 0 0;");
         Due.is("a lends, d has none who lends to him", 1 | 8, x.fewest());
-        LendTown either = Due.townOf(persons(5) + "deal da b a 1 0 0 either;deal db c a 1 0 0 either;deal dc a d 1 0 0;");
+        LendTown either = Due.townOf(Texts.persons(5) + "deal da b a 1 0 0 either;deal db c a 1 0 0 either;deal dc a d 1 0 0;");
         Due.is("a, turned", 1, either.fewest());
-        LendTown two = Due.townOf(persons(4) + "deal da a b 1 0 0 either;deal db c d 1 0 0 either;");
+        LendTown two = Due.townOf(Texts.persons(4) + "deal da a b 1 0 0 either;deal db c d 1 0 0 either;");
         Due.is("the least set", 5, two.fewest());
-        Due.is("no deals", 0, Due.townOf(persons(4)).fewest());
+        Due.is("no deals", 0, Due.townOf(Texts.persons(4)).fewest());
         Due.is("nobody", 0, new LendTown().fewest());
-        LendTown often = Due.townOf(persons(2) + "deal da a b 1 0 0;deal db a b 1 0 0;deal dc a b 2 0 0;deal dd a b 2 0 0;");
+        LendTown often = Due.townOf(Texts.persons(2) + "deal da a b 1 0 0;deal db a b 1 0 0;deal dc a b 2 0 0;deal dd a b 2 0 0;");
         Due.is("two deals with one", 1, often.fewest());
-        LendTown turned = Due.townOf(persons(3) + "deal da b a 1 0 0 either;deal db b a 1 0 0 either;deal dc a c 2 0 0;");
+        LendTown turned = Due.townOf(Texts.persons(3) + "deal da b a 1 0 0 either;deal db b a 1 0 0 either;deal dc a c 2 0 0;");
         Due.is("turned, two deals with one", 1, turned.fewest());
     }
 
@@ -784,7 +747,7 @@ public final class PromiseTest {
     }
 
     private static void meetings() {
-        LendTown x = Due.townOf(persons(8));
+        LendTown x = Due.townOf(Texts.persons(8));
         Due.is("nobody", 1, meet(x));
         Due.is("one pair", 2, meet(x, 3, 1));
         Due.is("twice", 2, meet(x, 3, 1, 3, 1));
@@ -819,7 +782,7 @@ public final class PromiseTest {
     }
 
     private static void falseMeetings() {
-        LendTown x = Due.townOf(persons(8));
+        LendTown x = Due.townOf(Texts.persons(8));
         Due.is("none", 0, wrongly(x));
         Due.is("none", 0, wrongly(x, 0, 1));
         Due.is("one of three, the least", 1, wrongly(x, 0, 1, 1, 2, 2, 0));
@@ -846,14 +809,14 @@ public final class PromiseTest {
         Due.is("a lends to c in 4", 0, x.does(5, 0));
         Due.is("c may borrow, a may lend", 2, x.between(5));
         Due.is("b is bound", 0, x.does(0, 1) == 2 ? 0 : 1);
-        LendTown y = Due.townOf(ABCD + "deal da a b 5 1 1;deal db b c 5 1 1;deal dc b d 5 1 1;deal dd c d 4 1 1;deal de d a 4 1 1;");
+        LendTown y = Due.townOf(Texts.ABCD + "deal da a b 5 1 1;deal db b c 5 1 1;deal dc b d 5 1 1;deal dd c d 4 1 1;deal de d a 4 1 1;");
         Due.is("b", 2, y.between(5));
         y.does(4, 0);
         Due.is("a borrowed", 0, y.between(5));
         y.undo();
         y.does(3, 0);
         Due.is("c lent, d may borrow", 2, y.between(5));
-        LendTown z = Due.townOf(ABC + "deal da a b 5 1 1;deal db b c 5 1 1;deal dc c a 4 1 1;");
+        LendTown z = Due.townOf(Texts.ABC + "deal da a b 5 1 1;deal db b c 5 1 1;deal dc c a 4 1 1;");
         z.does(2, 0);
         Due.is("a may not lend, c not borrow", 0, z.between(5));
         LendTown edges = Due.townOf("person a 5 9;person b 0 59;person c 0 59;"
@@ -863,7 +826,7 @@ public final class PromiseTest {
         Due.is("the year he dies in", 1, edges.between(9));
         Due.is("two deals with one lender", 1, edges.between(6));
         Due.is("with one person alone", 0, edges.between(7));
-        LendTown done = Due.townOf(ABC + "law years 1;deal da a b 5 1 1;deal db b c 5 1 1;deal dc a b 4 1 1;");
+        LendTown done = Due.townOf(Texts.ABC + "law years 1;deal da a b 5 1 1;deal db b c 5 1 1;deal dc a b 4 1 1;");
         done.does(0, 0);
         Due.is("a done deal is none, and b is a borrower", 0, done.between(5));
     }
@@ -874,11 +837,11 @@ public final class PromiseTest {
     }
 
     private static void runs() {
-        LendTown x = Due.townOf(ABC + "limit b 2;deal da a b 7 1 1;deal db b c 5 1 1 either;deal dc c a 6 1 1 either;deal dd a b 5 1 1 either;");
+        LendTown x = Due.townOf(Texts.ABC + "limit b 2;deal da a b 7 1 1;deal db b c 5 1 1 either;deal dc c a 6 1 1 either;deal dd a b 5 1 1 either;");
         int[] order = {1, 3, 2, 0};
         boolean[] either = {false, true, true, true};
         for (int seed = -40; seed < 40; seed++) {
-            LendTown y = Due.townOf(ABC + "limit b 2;deal da a b 7 1 1;deal db b c 5 1 1 either;deal dc c a 6 1 1 either;deal dd a b 5 1 1 either;");
+            LendTown y = Due.townOf(Texts.ABC + "limit b 2;deal da a b 7 1 1;deal db b c 5 1 1 either;deal dc c a 6 1 1 either;deal dd a b 5 1 1 either;");
             int[] state = {seed * 1234567};
             int done = 0;
             int wrong = 0;
@@ -901,13 +864,13 @@ public final class PromiseTest {
             }
         }
         int last = x.refused();
-        Due.town(x, AB);
+        Due.town(x, Texts.AB);
         Due.is("no deals", -1, x.run(1));
         Due.is("refused stays", last, x.refused());
     }
 
     private static void images() {
-        LendTown x = Due.townOf(AB + "law years 5;part b lends;deal d a b 5 3 4;deal e b a 20 1 1;");
+        LendTown x = Due.townOf(Texts.AB + "law years 5;part b lends;deal d a b 5 3 4;deal e b a 20 1 1;");
         x.does(0, 0);
         Due.is("lawful", 9, x.lawful());
         Due.is("rests", 2, x.rests(-1));
@@ -954,7 +917,7 @@ public final class PromiseTest {
     }
 
     private static void counts() {
-        LendTown x = Due.townOf(ABC + "law years 60;deal d a b 5 3 4;");
+        LendTown x = Due.townOf(Texts.ABC + "law years 60;deal d a b 5 3 4;");
         x.does(0, 0);
         Due.feed(x, "four");
         int[] want = {3, 1, 60, 1, 4};
