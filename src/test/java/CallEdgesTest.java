@@ -159,6 +159,11 @@ public final class CallEdgesTest {
             Due.is("done stays", 1, x.count(3));
             Due.is("persons stay", 2, x.count(0));
             Due.is("fault stays", 0, x.fault());
+            LendTown busy = Look.busy();
+            busy.end(3);
+            String before = Look.at(busy).replaceFirst("count 3; fault", "count 0; fault");
+            byTape(busy, call);
+            Due.yes("not as told by call " + call + ": as before but for the tape", Look.at(busy).equals(before));
         }
     }
 
